@@ -14,6 +14,8 @@ public final class PageTurns {
     private static final int PARTS = 4;
     private static final int MOST_BARS = 40;
     private static final int MOST_ROOM = 60;
+    private static final int MOST_BEATS = 12;
+    private static final int USUAL_BEATS = 4;
 
     // What a part has, by the numbers that set() gives them.
     private static final int SPEED = 0;
@@ -86,6 +88,7 @@ public final class PageTurns {
 
     private static final int MOST_BYTES = 120;
     private static final int MOST_OPEN = 4;
+    private static final int MOST_TIMES = 9;
     private static final int MOST_NUMBER = 9999;
 
     private static final int TOKEN_END = 0;
@@ -96,6 +99,9 @@ public final class PageTurns {
     private static final int TOKEN_STRANGE = 5;
 
     // Numbers of the words; the first three are also those of the hands.
+    private static final int WORD_BUSY = 0;
+    private static final int WORD_HALF = 1;
+    private static final int WORD_FREE = 2;
     private static final int WORD_BEATS = 3;
     private static final int WORD_KEEP = 4;
     private static final int WORD_LETTER = 5;
@@ -105,7 +111,7 @@ public final class PageTurns {
     private final State now = new State();
     private final State kept = new State();
     private boolean isKept;
-    private final Reader reader = new Reader();
+    private final TextReader reader = new TextReader();
     private final Sheet[] sheets = new Sheet[SHEETS];
     private final PageTable[] tables = new PageTable[PARTS];
     private final Laying[] layings = new Laying[PARTS];
@@ -155,18 +161,19 @@ public final class PageTurns {
         if (!within(n, 1, 4)) {
             return tell(BEYOND);
         }
-        if (!reader.hasRoomFor(n)) {
+        Tape tape = reader.tape;
+        if (!tape.hasRoomFor(n)) {
             return tell(FULL);
         }
         for (int shift = 8 * (n - 1); shift >= 0; shift -= 8) {
-            reader.put(bytes >> shift);
+            tape.put(bytes >> shift);
         }
-        return reader.length;
+        return tape.length;
     }
 
     public int wipe() {
-        int had = reader.length;
-        reader.length = 0;
+        int had = reader.tape.length;
+        reader.tape.length = 0;
         return had;
     }
 
@@ -174,8 +181,8 @@ public final class PageTurns {
         if (!isPart(part)) {
             return tell(BEYOND);
         }
-        int fault = reader.parse();
-        reader.length = 0;
+        int fault = reader.findFault();
+        reader.tape.length = 0;
         if (fault >= 0) {
             return -1 - fault;
         }
@@ -206,7 +213,11 @@ public final class PageTurns {
         Part own = now.parts[part];
         int was = own.fact(bar, what);
         own.put(bar, what, v);
-        forgetPart(part);
+        if (isMarks) {
+            forgetPart(part);
+        } else {
+            forgetLayings();
+        }
         return was;
     }
 
@@ -387,15 +398,17 @@ public final class PageTurns {
         if (!within(what, 0, 3)) {
             return tell(BEYOND);
         }
+        int stops = 0;
+        int costs = 0;
+        for (int p = 0; p < PARTS; p++) {
+            Laying laying = layingOf(p);
+            stops += laying.stops;
+            costs += laying.cost;
+        }
         if (what >= 2) {
             return turnsAtOnce(what == 3);
         }
-        int sum = 0;
-        for (int p = 0; p < PARTS; p++) {
-            Laying laying = layingOf(p);
-            sum += what == 0 ? laying.stops : laying.cost;
-        }
-        return sum;
+        return what == 0 ? stops : costs;
     }
 
     // ---- breaks
@@ -591,7 +604,7 @@ public final class PageTurns {
             case 1:
                 return now.breaks.number;
             case 2:
-                return reader.length;
+                return reader.tape.length;
             case 3:
                 return now.breaks.heldSpots();
             default:
@@ -656,14 +669,14 @@ public final class PageTurns {
         return set;
     }
 
-    /** At how many bars two or more parts turn, or how many parts do so where most do. */
+    /** At how many bars two or more parts turn, or how many do where most do; layings are fresh. */
     private int turnsAtOnce(boolean wantsMost) {
         int most = 0;
         int shared = 0;
         for (int bar = 0; bar < MOST_BARS; bar++) {
             int parts = 0;
             for (int p = 0; p < PARTS; p++) {
-                if (layingOf(p).turnBehind[bar] != NO_TURN) {
+                if (layings[p].turnBehind[bar] != NO_TURN) {
                     parts++;
                 }
             }
@@ -686,7 +699,11 @@ public final class PageTurns {
     private Laying layingOf(int part) {
         Laying laying = layings[part];
         if (!laying.isFresh) {
-            engraver.workOut(now, part, tableOf(part), laying);
+            Part own = now.parts[part];
+            PageTable table = tableOf(part);
+            engraver.findEase(now, part, own.traits[HEARTS]);
+            engraver.weigh(table, own.traits[FOLDS], now.rules);
+            engraver.layOut(own, now.rules, table, laying);
         }
         return laying;
     }
@@ -729,7 +746,7 @@ public final class PageTurns {
         }
 
         boolean isMarked(int bar, int mark) {
-            return (fact(bar, MARKS) & mark) != 0;
+            return (facts[bar * FACTS + MARKS] & mark) != 0;
         }
 
         void become(Part other) {
@@ -755,11 +772,11 @@ public final class PageTurns {
         }
 
         boolean mayEndLine(int bar) {
-            return bar == bars - 1 || !isMarked(bar, KEEP);
+            return bar == bars - 1 || (facts[bar * FACTS + MARKS] & KEEP) == 0;
         }
 
         int roomAt(int bar, int size) {
-            return (fact(bar, ROOM) * (10 - 2 * size) + 9) / 10;
+            return (facts[bar * FACTS + ROOM] * (10 - 2 * size) + 9) / 10;
         }
 
         /** The room of all bars from one to another at size 0. */
@@ -780,7 +797,7 @@ public final class PageTurns {
         private int freeBeats(int from, int step, int known) {
             int beats = 0;
             int left = known;
-            for (int b = from; has(b); b += step) {
+            for (int b = from; b >= 0 && b < bars; b += step) {
                 int hand = left > 0 ? FREE_HAND : fact(b, HAND);
                 left--;
                 if (hand != FREE_HAND) {
@@ -986,23 +1003,16 @@ public final class PageTurns {
         }
     }
 
-    /** The tape, and what is read from it. */
-    private static final class Reader {
-        final byte[] tape = new byte[MOST_BYTES];
+    /** The bytes that were fed, and the tokens in them. */
+    private static final class Tape {
+        private final byte[] bytes = new byte[MOST_BYTES];
         int length;
 
-        final int[] facts = new int[MOST_BARS * FACTS];
-        int bars;
-        boolean isOver;
-
-        private int token;
-        private int start;
-        private int behind;
-        private int value;
-
-        private int open;
-        private final int[] times = new int[MOST_OPEN];
-        private final int[] firstBar = new int[MOST_OPEN];
+        // Behind the last token stands one more, the end.
+        private final int[] kinds = new int[MOST_BYTES + 1];
+        private final int[] starts = new int[MOST_BYTES + 1];
+        private final int[] values = new int[MOST_BYTES + 1];
+        private int tokens;
 
         boolean hasRoomFor(int n) {
             return n <= MOST_BYTES - length;
@@ -1010,50 +1020,188 @@ public final class PageTurns {
 
         void put(int oneByte) {
             if (hasRoomFor(1)) {
-                tape[length] = (byte) oneByte;
+                bytes[length] = (byte) oneByte;
                 length++;
             }
         }
 
-        /** The place of the first token that can't stand there, or -1. */
-        int parse() {
+        /** The same number, or that of the end if there are not so many tokens. */
+        private int known(int t) {
+            return t >= 0 && t < tokens ? t : tokens;
+        }
+
+        int kindOf(int t) {
+            return kinds[known(t)];
+        }
+
+        int startOf(int t) {
+            return starts[known(t)];
+        }
+
+        int valueOf(int t) {
+            return values[known(t)];
+        }
+
+        void split() {
+            tokens = 0;
+            int at = 0;
+            while (at < length) {
+                int next = at + 1;
+                if (bytes[at] != ' ') {
+                    next = behindToken(at);
+                    addToken(at, next);
+                }
+                at = next;
+            }
+            kinds[tokens] = TOKEN_END;
+            starts[tokens] = length;
+            values[tokens] = 0;
+        }
+
+        private int behindToken(int start) {
+            int at = start + 1;
+            if (isLetter(start)) {
+                while (at < length && isLetter(at)) {
+                    at++;
+                }
+            } else if (isDigit(start)) {
+                while (at < length && isDigit(at)) {
+                    at++;
+                }
+            }
+            return at;
+        }
+
+        private void addToken(int start, int behind) {
+            if (tokens >= MOST_BYTES) {
+                return;
+            }
+            starts[tokens] = start;
+            values[tokens] = 0;
+            if (isLetter(start)) {
+                kinds[tokens] = TOKEN_WORD;
+                values[tokens] = wordNumber(start, behind);
+            } else if (isDigit(start)) {
+                kinds[tokens] = TOKEN_NUMBER;
+                values[tokens] = numberValue(start, behind);
+            } else if (bytes[start] == '(') {
+                kinds[tokens] = TOKEN_OPEN;
+            } else {
+                kinds[tokens] = bytes[start] == ')' ? TOKEN_CLOSE : TOKEN_STRANGE;
+            }
+            tokens++;
+        }
+
+        private boolean isLetter(int at) {
+            return bytes[at] >= 'a' && bytes[at] <= 'z';
+        }
+
+        private boolean isDigit(int at) {
+            return bytes[at] >= '0' && bytes[at] <= '9';
+        }
+
+        /** The number's value; one more than the greatest stands for all that are too great. */
+        private int numberValue(int start, int behind) {
+            int value = 0;
+            for (int at = start; at < behind; at++) {
+                value = Math.min(MOST_NUMBER + 1, value * 10 + bytes[at] - '0');
+            }
+            return value;
+        }
+
+        private int wordNumber(int start, int behind) {
+            if (spells(start, behind, "busy")) {
+                return WORD_BUSY;
+            }
+            if (spells(start, behind, "half")) {
+                return WORD_HALF;
+            }
+            if (spells(start, behind, "free")) {
+                return WORD_FREE;
+            }
+            if (spells(start, behind, "beats")) {
+                return WORD_BEATS;
+            }
+            if (spells(start, behind, "keep")) {
+                return WORD_KEEP;
+            }
+            if (spells(start, behind, "letter")) {
+                return WORD_LETTER;
+            }
+            return spells(start, behind, "wish") ? WORD_WISH : WORD_OTHER;
+        }
+
+        private boolean spells(int start, int behind, String word) {
+            if (behind - start != word.length()) {
+                return false;
+            }
+            for (int i = 0; i < word.length(); i++) {
+                if (bytes[start + i] != word.charAt(i)) {
+                    return false;
+                }
+            }
+            return true;
+        }
+    }
+
+    /** The tape, and the bars that are read from its tokens. */
+    private static final class TextReader {
+        final Tape tape = new Tape();
+        private int at;
+
+        final int[] facts = new int[MOST_BARS * FACTS];
+        int bars;
+        boolean isOver;
+
+        private int open;
+        private final int[] times = new int[MOST_OPEN];
+        private final int[] firstBar = new int[MOST_OPEN];
+
+        /** Reads all bars: the place of the first token that can't stand there, or -1. */
+        int findFault() {
+            tape.split();
+            at = 0;
             bars = 0;
             isOver = false;
             open = 0;
-            behind = 0;
             boolean isBare = true;
-            advance();
-            for (int step = 0; step <= length; step++) {
-                if (token == TOKEN_END) {
-                    return open > 0 || isBare ? start : -1;
+            for (int step = 0; step <= MOST_BYTES; step++) {
+                int kind = tape.kindOf(at);
+                if (kind == TOKEN_END && open == 0 && !isBare) {
+                    return -1;
                 }
-                if (token == TOKEN_CLOSE && isBare) {
-                    return start;
+                boolean isGood = false;
+                if (kind == TOKEN_NUMBER) {
+                    isGood = takeOpening();
+                } else if (kind == TOKEN_WORD) {
+                    isGood = takeBar();
+                } else if (kind == TOKEN_CLOSE && !isBare) {
+                    isGood = takeClosing();
                 }
-                boolean opens = token == TOKEN_NUMBER;
-                boolean isGood = opens ? takeOpening()
-                        : token == TOKEN_CLOSE ? takeClosing() : takeBar();
                 if (!isGood) {
-                    return start;
+                    break;
                 }
-                isBare = opens;
+                isBare = kind == TOKEN_NUMBER;
             }
-            return start;
+            return tape.startOf(at);
         }
 
+        // The take-methods leave the reader at the token that can't stand
+        // there if they answer false, and behind what they took if true.
+
         private boolean takeOpening() {
-            if (!isNumber(1, 9)) {
+            if (!isNumber(1, MOST_TIMES)) {
                 return false;
             }
-            int often = value;
-            advance();
-            if (token != TOKEN_OPEN || open >= MOST_OPEN) {
+            int often = tape.valueOf(at);
+            at++;
+            if (tape.kindOf(at) != TOKEN_OPEN || open >= MOST_OPEN) {
                 return false;
             }
+            at++;
             times[open] = often;
             firstBar[open] = bars;
             open++;
-            advance();
             return true;
         }
 
@@ -1061,12 +1209,12 @@ public final class PageTurns {
             if (open <= 0) {
                 return false;
             }
+            at++;
             open--;
             int group = bars - firstBar[open];
             for (int time = 1; time < times[open]; time++) {
                 repeatLast(group);
             }
-            advance();
             return true;
         }
 
@@ -1080,24 +1228,24 @@ public final class PageTurns {
         }
 
         private boolean takeBar() {
-            if (token != TOKEN_WORD || value > FREE_HAND) {
+            int hand = tape.valueOf(at);
+            if (hand > WORD_FREE) {
                 return false;
             }
-            int hand = value;
-            advance();
+            at++;
             if (!isNumber(1, MOST_ROOM)) {
                 return false;
             }
-            int room = value;
-            int beats = 4;
-            advance();
+            int room = tape.valueOf(at);
+            int beats = USUAL_BEATS;
+            at++;
             if (isWord(WORD_BEATS)) {
-                advance();
-                if (!isNumber(1, 12)) {
+                at++;
+                if (!isNumber(1, MOST_BEATS)) {
                     return false;
                 }
-                beats = value;
-                advance();
+                beats = tape.valueOf(at);
+                at++;
             }
             addBar(room, hand, beats, takeMarks());
             return true;
@@ -1105,7 +1253,7 @@ public final class PageTurns {
 
         private int takeMarks() {
             int marks = 0;
-            for (int step = 0; step < length; step++) {
+            for (int step = 0; step < MOST_BYTES; step++) {
                 if (isWord(WORD_KEEP)) {
                     marks |= KEEP;
                 } else if (isWord(WORD_LETTER)) {
@@ -1115,7 +1263,7 @@ public final class PageTurns {
                 } else {
                     break;
                 }
-                advance();
+                at++;
             }
             return marks;
         }
@@ -1125,103 +1273,20 @@ public final class PageTurns {
                 isOver = true;
                 return;
             }
-            int at = bars * FACTS;
-            facts[at + ROOM] = room;
-            facts[at + HAND] = hand;
-            facts[at + BEATS] = beats;
-            facts[at + MARKS] = marks;
+            int place = bars * FACTS;
+            facts[place + ROOM] = room;
+            facts[place + HAND] = hand;
+            facts[place + BEATS] = beats;
+            facts[place + MARKS] = marks;
             bars++;
         }
 
         private boolean isNumber(int least, int most) {
-            return token == TOKEN_NUMBER && within(value, least, most);
+            return tape.kindOf(at) == TOKEN_NUMBER && within(tape.valueOf(at), least, most);
         }
 
         private boolean isWord(int word) {
-            return token == TOKEN_WORD && value == word;
-        }
-
-        private int byteAt(int place) {
-            return place >= 0 && place < length ? tape[place] & 255 : 0;
-        }
-
-        private static boolean isLetter(int b) {
-            return b >= 'a' && b <= 'z';
-        }
-
-        private static boolean isDigit(int b) {
-            return b >= '0' && b <= '9';
-        }
-
-        private void advance() {
-            start = behind;
-            while (start < length && byteAt(start) == ' ') {
-                start++;
-            }
-            behind = start;
-            int first = byteAt(start);
-            if (start >= length) {
-                token = TOKEN_END;
-            } else if (isLetter(first)) {
-                scanWord();
-            } else if (isDigit(first)) {
-                scanNumber();
-            } else {
-                token = first == '(' ? TOKEN_OPEN : first == ')' ? TOKEN_CLOSE : TOKEN_STRANGE;
-                behind++;
-            }
-        }
-
-        private void scanWord() {
-            token = TOKEN_WORD;
-            while (behind < length && isLetter(byteAt(behind))) {
-                behind++;
-            }
-            value = wordNumber();
-        }
-
-        private void scanNumber() {
-            token = TOKEN_NUMBER;
-            value = 0;
-            while (behind < length && isDigit(byteAt(behind))) {
-                // One more than the greatest stands for all that are greater.
-                value = Math.min(MOST_NUMBER + 1, value * 10 + byteAt(behind) - '0');
-                behind++;
-            }
-        }
-
-        private int wordNumber() {
-            if (spells("busy")) {
-                return 0;
-            }
-            if (spells("half")) {
-                return HALF_HAND;
-            }
-            if (spells("free")) {
-                return FREE_HAND;
-            }
-            if (spells("beats")) {
-                return WORD_BEATS;
-            }
-            if (spells("keep")) {
-                return WORD_KEEP;
-            }
-            if (spells("letter")) {
-                return WORD_LETTER;
-            }
-            return spells("wish") ? WORD_WISH : WORD_OTHER;
-        }
-
-        private boolean spells(String word) {
-            if (behind - start != word.length()) {
-                return false;
-            }
-            for (int i = 0; i < word.length(); i++) {
-                if (byteAt(start + i) != word.charAt(i)) {
-                    return false;
-                }
-            }
-            return true;
+            return tape.kindOf(at) == TOKEN_WORD && tape.valueOf(at) == word;
         }
     }
 
@@ -1281,15 +1346,12 @@ public final class PageTurns {
                 if (b > from && part.isMarked(b, LETTER)) {
                     letters += rules[KEPT];
                 }
-                widest[from] = b;
+                int waste = b == part.bars - 1 ? 0 : spare * spare / 10;
+                int wish = part.isMarked(b, WISH) ? 5 : 0;
                 costs[from * MOST_BARS + b] = part.mayEndLine(b)
-                        ? endCost(part, b, spare) + 20 * size * size + letters : NO_COST;
+                        ? waste + 20 * size * size - wish + letters : NO_COST;
+                widest[from] = b;
             }
-        }
-
-        private static int endCost(Part part, int bar, int spare) {
-            int cost = bar == part.bars - 1 ? 0 : spare * spare / 10;
-            return part.isMarked(bar, WISH) ? cost - 5 : cost;
         }
 
         boolean fits(int from, int to) {
@@ -1318,17 +1380,14 @@ public final class PageTurns {
         private int cheapestFrom(int from, int end, int most) {
             int least = NO_COST;
             int last = Math.min(end, widest[from]);
+            int row = from * MOST_BARS;
+            int rest = (most - 1) * (MOST_BARS + 1) + 1;
             for (int b = from; b <= last; b++) {
-                least = Math.min(least, costWithLine(from, b, most));
+                if (costs[row + b] != NO_COST && cheapest[rest + b] != NO_COST) {
+                    least = Math.min(least, costs[row + b] + cheapest[rest + b]);
+                }
             }
             return least;
-        }
-
-        /** The cost of the cheapest page whose first line ends with a bar. */
-        private int costWithLine(int from, int bar, int most) {
-            int own = costs[from * MOST_BARS + bar];
-            int rest = cheapest[(most - 1) * (MOST_BARS + 1) + bar + 1];
-            return own == NO_COST || rest == NO_COST ? NO_COST : own + rest;
         }
 
         int pageCost(int most, int from) {
@@ -1340,7 +1399,9 @@ public final class PageTurns {
             int least = pageCost(most, from);
             int last = Math.min(end, widest[from]);
             for (int b = from; b <= last; b++) {
-                if (costWithLine(from, b, most) == least) {
+                int own = costOf(from, b);
+                int rest = pageCost(most - 1, b + 1);
+                if (own != NO_COST && rest != NO_COST && own + rest == least) {
                     return b;
                 }
             }
@@ -1350,15 +1411,16 @@ public final class PageTurns {
 
     /** The least cost of a page from each bar of a part to each other, and its least size. */
     private static final class PageTable {
-        private final int[] costs = new int[MOST_BARS * MOST_BARS];
-        private final byte[] sizes = new byte[MOST_BARS * MOST_BARS];
+        // A cost four times and the size: the least of these is that of
+        // the least cost, and of equal costs that of the least size.
+        private final int[] leasts = new int[MOST_BARS * MOST_BARS];
         int bars;
         boolean isFresh;
 
         void fill(Part part, int[] rules, LineTable lines) {
             bars = part.bars;
             isFresh = true;
-            Arrays.fill(costs, NO_COST);
+            Arrays.fill(leasts, NO_COST);
             for (int size = 0; size < SIZES; size++) {
                 lines.fill(part, rules, size, 0, bars - 1);
                 for (int end = 0; end < bars; end++) {
@@ -1372,21 +1434,25 @@ public final class PageTurns {
 
         private void takeCheaper(LineTable lines, int most, int end, int size) {
             for (int from = 0; from <= end; from++) {
-                int at = from * MOST_BARS + end;
                 int cost = lines.pageCost(most, from);
-                if (cost < costs[at]) {
-                    costs[at] = cost;
-                    sizes[at] = (byte) size;
+                if (cost != NO_COST) {
+                    int at = from * MOST_BARS + end;
+                    leasts[at] = Math.min(leasts[at], cost * 4 + size);
                 }
             }
         }
 
+        boolean hasPage(int from, int to) {
+            return leasts[from * MOST_BARS + to] != NO_COST;
+        }
+
+        /** The cost of a page that there is. */
         int costOf(int from, int to) {
-            return costs[from * MOST_BARS + to];
+            return leasts[from * MOST_BARS + to] >> 2;
         }
 
         int sizeOf(int from, int to) {
-            return sizes[from * MOST_BARS + to];
+            return leasts[from * MOST_BARS + to] & 3;
         }
     }
 
@@ -1513,7 +1579,7 @@ public final class PageTurns {
                     continue;
                 }
                 for (int to = from; to < bars; to++) {
-                    if (table.costOf(from, to) == NO_COST) {
+                    if (!table.hasPage(from, to)) {
                         continue;
                     }
                     if (to == bars - 1) {
@@ -1535,45 +1601,38 @@ public final class PageTurns {
             return state < PAGE_STATES - 1 ? state + 1 : PAGE_STATES - 2;
         }
 
-        void workOut(State state, int part, PageTable table, Laying laying) {
-            Part own = state.parts[part];
-            turning = EVEN_STATES & ~own.traits[FOLDS];
-            need = state.rules[NEED];
-            paper = state.rules[PAPER];
-            findEase(state, part, own.traits[HEARTS]);
-            weigh(table);
-            laying.begin();
-            if (table.bars > 0 && worths[0] != NO_WORTH) {
-                addPages(own, state.rules, table, laying);
+        /** The worth of the best laying from each bar on, for each page; findEase() comes first. */
+        void weigh(PageTable table, int folds, int[] rules) {
+            int bars = table.bars;
+            turning = EVEN_STATES & ~folds;
+            need = rules[NEED];
+            paper = rules[PAPER];
+            Arrays.fill(worths, bars * PAGE_STATES, (bars + 1) * PAGE_STATES, 0);
+            for (int from = bars - 1; from >= 0; from--) {
+                Arrays.fill(worths, from * PAGE_STATES, (from + 1) * PAGE_STATES, NO_WORTH);
+                for (int to = from; to < bars; to++) {
+                    if (table.hasPage(from, to)) {
+                        takeBetter(table, from, to);
+                    }
+                }
             }
         }
 
-        /** The worth of the best laying from each bar on, for each page that may begin there. */
-        private void weigh(PageTable table) {
-            int bars = table.bars;
+        private void takeBetter(PageTable table, int from, int to) {
             for (int state = 0; state < PAGE_STATES; state++) {
-                worths[bars * PAGE_STATES + state] = 0;
-            }
-            for (int from = bars - 1; from >= 0; from--) {
-                for (int state = 0; state < PAGE_STATES; state++) {
-                    long least = NO_WORTH;
-                    for (int to = from; to < bars; to++) {
-                        least = Math.min(least, worthOf(table, state, from, to));
-                    }
-                    worths[from * PAGE_STATES + state] = least;
-                }
+                int place = from * PAGE_STATES + state;
+                worths[place] = Math.min(worths[place], worthOf(table, state, from, to));
             }
         }
 
         /** The worth of the best laying from a bar on whose first page ends with another. */
         private long worthOf(PageTable table, int state, int from, int to) {
-            int cost = table.costOf(from, to);
             long rest = worths[(to + 1) * PAGE_STATES + following(state)];
-            if (cost == NO_COST || rest == NO_WORTH) {
+            if (rest == NO_WORTH || !table.hasPage(from, to)) {
                 return NO_WORTH;
             }
             long stops = turnOf(table, state, to) == STOP_TURN ? STOP_WEIGHT : 0;
-            return rest + stops + (cost + paper) * COST_WEIGHT + 1;
+            return rest + stops + (table.costOf(from, to) + paper) * COST_WEIGHT + 1;
         }
 
         private int turnOf(PageTable table, int state, int to) {
@@ -1583,7 +1642,12 @@ public final class PageTurns {
             return ease[to] >= need ? SAFE_TURN : STOP_TURN;
         }
 
-        private void addPages(Part own, int[] rules, PageTable table, Laying laying) {
+        /** Lays the part as weigh() found it best. */
+        void layOut(Part own, int[] rules, PageTable table, Laying laying) {
+            laying.begin();
+            if (table.bars == 0 || worths[0] == NO_WORTH) {
+                return;
+            }
             int from = 0;
             int state = 0;
             for (int page = 0; page < MOST_BARS && from < table.bars; page++) {
