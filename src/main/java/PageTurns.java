@@ -1556,6 +1556,7 @@ public final class PageTurns {
         private final int[] ease = new int[MOST_BARS];
         private final int[] starts = new int[MOST_BARS + 1];
         private final long[] worths = new long[(MOST_BARS + 1) * PAGE_STATES];
+        private final byte[] pageEnds = new byte[MOST_BARS * PAGE_STATES];
         private int turning;
         private int need;
         private int paper;
@@ -1601,7 +1602,7 @@ public final class PageTurns {
             return state < PAGE_STATES - 1 ? state + 1 : PAGE_STATES - 2;
         }
 
-        /** The worth of the best laying from each bar on, for each page; findEase() comes first. */
+        /** Finds the best laying from each bar on for each page state; findEase() comes first. */
         void weigh(PageTable table, int folds, int[] rules) {
             int bars = table.bars;
             turning = EVEN_STATES & ~folds;
@@ -1618,21 +1619,22 @@ public final class PageTurns {
             }
         }
 
+        /** Takes a page for each state for which it is better than all shorter ones. */
         private void takeBetter(PageTable table, int from, int to) {
+            long page = (table.costOf(from, to) + paper) * COST_WEIGHT + 1;
+            boolean isSafe = to == table.bars - 1 || ease[to] >= need;
             for (int state = 0; state < PAGE_STATES; state++) {
+                long rest = worths[(to + 1) * PAGE_STATES + following(state)];
+                if (rest == NO_WORTH) {
+                    continue;
+                }
+                long stop = isSafe || (turning >> state & 1) == 0 ? 0 : STOP_WEIGHT;
                 int place = from * PAGE_STATES + state;
-                worths[place] = Math.min(worths[place], worthOf(table, state, from, to));
+                if (rest + page + stop < worths[place]) {
+                    worths[place] = rest + page + stop;
+                    pageEnds[place] = (byte) to;
+                }
             }
-        }
-
-        /** The worth of the best laying from a bar on whose first page ends with another. */
-        private long worthOf(PageTable table, int state, int from, int to) {
-            long rest = worths[(to + 1) * PAGE_STATES + following(state)];
-            if (rest == NO_WORTH || !table.hasPage(from, to)) {
-                return NO_WORTH;
-            }
-            long stops = turnOf(table, state, to) == STOP_TURN ? STOP_WEIGHT : 0;
-            return rest + stops + (table.costOf(from, to) + paper) * COST_WEIGHT + 1;
         }
 
         private int turnOf(PageTable table, int state, int to) {
@@ -1651,7 +1653,7 @@ public final class PageTurns {
             int from = 0;
             int state = 0;
             for (int page = 0; page < MOST_BARS && from < table.bars; page++) {
-                int to = firstPageEnd(table, state, from);
+                int to = pageEnds[from * PAGE_STATES + state];
                 int size = table.sizeOf(from, to);
                 laying.addPage(from, to, size, table.costOf(from, to), paper);
                 laying.addTurn(to, turnOf(table, state, to));
@@ -1661,17 +1663,6 @@ public final class PageTurns {
                 from = to + 1;
                 state = following(state);
             }
-        }
-
-        /** Where the first page of the best layings ends that has the fewest bars on it. */
-        private int firstPageEnd(PageTable table, int state, int from) {
-            long least = worths[from * PAGE_STATES + state];
-            for (int to = from; to < table.bars; to++) {
-                if (worthOf(table, state, from, to) == least) {
-                    return to;
-                }
-            }
-            return table.bars - 1;
         }
 
         private void addLines(int first, int last, int most, Laying laying) {
