@@ -53,7 +53,7 @@ public final class PageTurns {
     private static final int MOST_NEED = 999;
 
     private static final int SIZES = 3;
-    private static final int NO_COST = Integer.MAX_VALUE;
+    private static final int NO_COST = 2147483647;
 
     // Pages 0 to 9 may be folded one by one; behind these only odd and even
     // differ, so that state 10 stands for 10, 12, .. and 11 for 11, 13, ..
@@ -66,7 +66,7 @@ public final class PageTurns {
     // together, and one of cost more than all pages together.
     private static final long STOP_WEIGHT = 1L << 40;
     private static final long COST_WEIGHT = 64L;
-    private static final long NO_WORTH = Long.MAX_VALUE;
+    private static final long NO_WORTH = 9223372036854775807L;
 
     private static final int NO_TURN = 0;
     private static final int SAFE_TURN = 1;

@@ -86,6 +86,8 @@ public final class BreaksTest {
         mayBe(x, 3, 0, 0);
         x.rule(2, 200);
         mayBe(x, 5, 2, 1);
+        x.rule(2, 800);
+        mayBe(x, 5, 0, 1);
         x.rule(2, 801);
         mayBe(x, 5, 0, 0);
         x.rule(2, 600);
@@ -212,6 +214,10 @@ public final class BreaksTest {
         x.lay(0, 0, 1);
         C.due("four bars at once", x.judge(0), 1);
         C.due("no bars", x.judge(2), 0);
+        Check.read(x, 3, "8(5(busy 5))");
+        C.due("forty bars", x.judge(3), 1);
+        x.rule(0, 200);
+        C.due("forty bars in one line", x.judge(3), 0);
         for (int p : WRONG_PARTS) {
             C.due("judge(" + p + ")", x.judge(p), BEYOND);
         }

@@ -334,6 +334,20 @@ public final class PagesTest {
         C.due("no stop without folds", y.folds(0), 1);
         y.rule(2, 100);
         C.due("the turn can be behind bar 1", y.folds(0), 0);
+        // Turns are safe behind bars 0, 3, 4. With 0 and 2 folded five pages
+        // of two bars do; with 4 folded alone the turns are behind 0 and 4.
+        PageTurns z = Check.with("free 60 3(busy 60)free 60 5(busy 60)");
+        z.rule(1, 2);
+        C.due("the fewest go ahead of the least set", z.folds(0), 16);
+        z.set(0, 3, 5);
+        C.due("the least set would do, too", z.best(0, 0), 0);
+        // Turns are safe behind bars 1 and 2: behind page 2, or page 0.
+        PageTurns w = Check.with("2(busy 60)free 60 4(busy 60)");
+        w.rule(1, 2);
+        w.rule(2, 400);
+        C.due("of several the least set", w.folds(0), 1);
+        w.set(0, 3, 4);
+        C.due("the other would do, too", w.best(0, 0), 0);
     }
 
     private static void needs() {

@@ -146,6 +146,18 @@ public final class PartsTest {
         good("2(2(2(2(busy 9)busy 9)busy 9)busy 9)", 30);
         good("1(busy 1)1(busy 2)", 2);
         good("8(5(busy 1))", 40);
+        good("busy1".repeat(24), 24);
+        good(" ".repeat(114) + "busy 1", 1);
+        good("busy 1 keep" + " keep".repeat(21), 1);
+        // What was on the tape before is gone, behind the end, too.
+        PageTurns old = new PageTurns();
+        Check.feed(old, "busy 5 keepkeep busy 99");
+        old.wipe();
+        C.due("a word at the end", Check.read(old, 0, "busy 5 keep"), 1);
+        Check.feed(old, "busy 55 keep");
+        old.wipe();
+        C.due("a number at the end", Check.read(old, 0, "busy 5"), 2);
+        C.due("its room", old.bar(0, 1, 0), 5);
         PageTurns x = new PageTurns();
         C.due("read", Check.read(x, 1, "2(half 17 beats 11 letter free 3 wish keep)"), 4);
         int[][] want = {{17, 1, 11, 2}, {3, 2, 4, 5}, {17, 1, 11, 2}, {3, 2, 4, 5}};
@@ -218,6 +230,18 @@ public final class PartsTest {
         fault("busy 1 {", 7);
         fault("busy 1 `", 7);
         fault("9(9(busy 1)) soft", 13);
+        fault("busyz 3", 0);
+        fault("busya 3", 0);
+        fault("busy 1(", 6);
+        fault("2)busy 1)", 1);
+        fault("2(busy 1-", 8);
+        fault("2 3 busy 1", 2);
+        fault(")".repeat(120), 0);
+        fault("busy 1" + ")".repeat(114), 6);
+        fault(" ".repeat(120), 120);
+        fault("busy 1" + " ".repeat(113) + "2", 120);
+        fault("z".repeat(120), 0);
+        fault("9".repeat(120), 0);
     }
 
     private static void readFull() {
@@ -259,6 +283,8 @@ public final class PartsTest {
         C.due("hand", x.change(0, 0, 1, 2), 0);
         C.due("hand again", x.change(0, 0, 1, 1), 2);
         C.due("hand is", x.bar(0, 0, 1), 1);
+        C.due("hand 0", x.change(0, 0, 1, 0), 1);
+        C.due("hand is 0", x.change(0, 0, 1, 1), 0);
         C.due("marks", x.change(0, 0, 3, 7), 1);
         C.due("marks again", x.change(0, 0, 3, 0), 7);
         C.due("marks are", x.bar(0, 0, 3), 0);
@@ -299,6 +325,13 @@ public final class PartsTest {
         C.due("clear", x.clear(0), 1);
         C.due("cut all", x.cut(0, 0, 3), 0);
         C.due("cut of nothing", x.cut(0, 0, 1), BEYOND);
+        PageTurns y = Check.with("busy 1 busy 2 busy 3 7(busy 4)6(5(busy 5))");
+        C.due("one of forty", y.cut(0, 0, 1), 39);
+        C.due("bar 1", y.bar(0, 1, 0), 3);
+        C.due("bar 38", y.bar(0, 38, 0), 5);
+        C.due("the last", y.cut(0, 38, 1), 38);
+        C.due("bar 37", y.bar(0, 37, 0), 5);
+        C.due("all the rest", y.cut(0, 0, 38), 0);
     }
 
     private static void free() {
@@ -321,6 +354,9 @@ public final class PartsTest {
         PageTurns y = Check.with("free 1 beats 1 free 1 beats 1");
         y.set(0, 0, 70);
         C.due("cut once", y.free(0, 0, 0), 171);
+        PageTurns z = Check.with("8(5(free 1 beats 12))");
+        z.set(0, 0, 30);
+        C.due("as much as can be free", z.free(0, 17, 0), 96000);
     }
 
     private static void freeByHeart() {
