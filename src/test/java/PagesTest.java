@@ -377,6 +377,15 @@ public final class PagesTest {
         w.rule(1, 1);
         w.set(0, 0, 73);
         C.due("986", w.needs(0), 987);
+        // Needs on both sides of powers of two: beats at a speed, and what is free.
+        int[][] free = {{7, 82, 512}, {11, 129, 511}, {9, 211, 255}, {3, 70, 257}, {1, 46, 130}, {2, 94, 127}};
+        for (int[] f : free) {
+            PageTurns v = Check.with("free 60 beats " + f[0] + " busy 60 busy 60");
+            v.rule(1, 1);
+            v.set(0, 0, f[1]);
+            C.due("free", v.free(0, 0, 0), f[2]);
+            C.due("needs(0) with " + f[2] + " free", v.needs(0), f[2] + 1);
+        }
     }
 
     private static void together() {
