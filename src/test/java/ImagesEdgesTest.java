@@ -106,6 +106,13 @@ public final class ImagesEdgesTest {
         x.undo();
         E.due("an image of what came back", x.rule(0, 60), 99);
 
+        PageTurns laid = Check.with("busy 60");
+        laid.image();
+        Check.read(laid, 0, "busy 60");
+        E.due("a laying that was asked before", laid.best(0, 3), 2);
+        laid.undo();
+        E.due("is that of the bars that came back", laid.best(0, 3), 1);
+
         E.says("36", "how many BARS there are in all.");
         PageTurns y = new PageTurns();
         y.image();

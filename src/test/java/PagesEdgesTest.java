@@ -136,6 +136,14 @@ public final class PagesEdgesTest {
         for (int what = 0; what < 5; what++) {
             E.due(one, "best(0, " + what + ")", least[what]);
         }
+        // A short part behind a long one, and the other way.
+        PageTurns two = pageABar("8(5(busy 60))");
+        Check.read(two, 1, "3(busy 60)");
+        for (int round = 0; round < 2; round++) {
+            two.rule(4, 10 + round);
+            E.due("the long one", two.best(0, 1), 400 + 40 * round);
+            E.due("the short one", two.best(1, 1), 30 + 3 * round);
+        }
         E.keeps(States.RICH, "best(0, 0)", "best(1, 1)", "best(3, 4)");
 
         E.says("14", "BEYOND.");
@@ -183,6 +191,9 @@ public final class PagesEdgesTest {
         small.rule(0, 47);
         E.due("size 2", small.laid(0, 0, 2), 2);
         E.due("its cost", small.laid(0, 0, 4), 80);
+        small.rule(0, 48);
+        E.due("size 1 again", small.laid(0, 0, 2), 1);
+        E.due("still one line", small.laid(0, 0, 3), 1);
         E.keeps(States.RICH, "laid(0, 0, 4)", "laid(1, 1, 1)");
 
         E.says("15", "5 1 if there is a TURN behind it, 2 if that is a STOP, else 0.");
@@ -295,6 +306,11 @@ public final class PagesEdgesTest {
         x.set(0, 3, 1023);
         E.due("no turn", x.hearts(0), 0);
         E.due("one page", Check.with("busy 60").hearts(0), 0);
+        PageTurns forty = pageABar("8(5(busy 60 beats 1))");
+        forty.rule(2, 100);
+        E.due("forty pages", forty.hearts(0), 1);
+        forty.rule(2, 101);
+        E.due("one bar alone is behind the last turn", forty.hearts(0), NONE);
         E.keeps(States.RICH, "hearts(0)");
 
         E.says("18", "BEYOND.");
@@ -307,6 +323,12 @@ public final class PagesEdgesTest {
         E.due("just 8", x.hearts(0), 8);
         x.rule(2, 801);
         E.due("not even 8", x.hearts(0), NONE);
+        Supplier<PageTurns> never = () -> {
+            PageTurns n = States.RICH.get();
+            n.rule(2, 999);
+            return n;
+        };
+        E.refused(never, "hearts(1)", NONE);
         E.refused(States.NEW, "hearts(0)", NONE);
         E.refused(States.RICH, "hearts(2)", NONE);
         E.refused(NARROW, "hearts(1)", NONE);
@@ -350,6 +372,14 @@ public final class PagesEdgesTest {
         E.due("page 10 of 12 can't fold", x.folds(0), NONE);
         x.cut(0, 11, 1);
         E.due("page 10 of 11 is the last", x.folds(0), 341);
+        // Behind page 10 a hand is free, behind page 12 none is.
+        PageTurns late = pageABar("5(2(busy 60))free 60 busy 60 busy 60");
+        E.due("page 12 of 13 is the last", late.folds(0), 341);
+        Check.read(late, 0, "busy 60");
+        E.due("page 12 of 14 can't fold", late.folds(0), NONE);
+        late.change(0, 12, 1, 2);
+        E.due("nor need it where a hand is free", late.folds(0), 341);
+        E.refused(States.FULL, "folds(0)", NONE);
         E.refused(States.NEW, "folds(0)", NONE);
         E.refused(States.RICH, "folds(2)", NONE);
         E.refused(NARROW, "folds(1)", NONE);
@@ -388,6 +418,12 @@ public final class PagesEdgesTest {
         E.says("20", "NONE: not even with 999, or there is no LAYING.");
         y.set(0, 0, 234);
         E.due("1000 free", y.needs(0), NONE);
+        Supplier<PageTurns> always = () -> {
+            PageTurns a = States.RICH.get();
+            a.set(1, 3, 1023);
+            return a;
+        };
+        E.refused(always, "needs(1)", NONE);
         x.set(0, 3, 1);
         E.due("no turn", x.needs(0), NONE);
         E.due("one page", Check.with("busy 60").needs(0), NONE);

@@ -291,6 +291,18 @@ public final class PartsEdgesTest {
             }
         }
 
+        PageTurns y = Check.with("2(busy 60)");
+        y.rule(1, 1);
+        E.due("a laying that was asked before", y.best(0, 0), 1);
+        y.change(0, 1, 1, 2);
+        E.due("a hand is free", y.best(0, 0), 0);
+        y.change(0, 1, 1, 0);
+        E.due("a hand is busy", y.best(0, 0), 1);
+        y.change(0, 0, 3, 1);
+        E.due("keep: no laying", y.best(0, 2), Check.NONE);
+        y.change(0, 0, 3, 0);
+        E.due("not keep: two pages", y.best(0, 2), 2);
+
         E.says("8", "BEYOND.");
         E.refused(States.RICH, "change(?, 0, 1, 1)", BEYOND, Edges.NO_PART);
         E.refused(States.RICH, "change(0, ?, 1, 1)", BEYOND, -1, 7, 40, MIN, MAX);

@@ -466,5 +466,14 @@ public final class RulesEdgesTest {
         E.due("the third", v.ends(0, 2), 3);
         v.rule(3, 9);
         E.due("2 and 1 is cheaper", v.ends(0, 1), 2);
+        // 1, 1 and 1 cost as much as 2 and 1, but are three lines.
+        PageTurns u = Check.with("busy 10 busy 10 letter busy 15");
+        u.rule(0, 20);
+        u.rule(3, 20);
+        E.due("three lines", u.ends(0, 0), 0);
+        E.due("cost", u.laid(0, 0, 4), 20);
+        u.rule(1, 2);
+        E.due("no more than two lines", u.ends(0, 0), 1);
+        E.due("cost", u.laid(0, 0, 4), 20);
     }
 }

@@ -260,6 +260,12 @@ public final class SheetsEdgesTest {
         E.due("its beats are", x.bar(0, 0, 2), 3);
         E.due("its marks are", x.bar(0, 0, 3), 1);
         E.due("another part's is", x.bar(1, 0, 0), 8);
+        PageTurns laid = Check.with("2(busy 60)");
+        laid.sheet(0, 8, 2);
+        write(laid, 0, 30, 30);
+        E.due("a laying that was asked before", laid.best(0, 3), 2);
+        laid.rooms(0, 0);
+        E.due("both fit into a line", laid.best(0, 3), 1);
         PageTurns full = fortyBars();
         full.sheet(0, 8, 40);
         for (int i = 0; i < 40; i++) {
@@ -350,6 +356,12 @@ public final class SheetsEdgesTest {
         PageTurns more = threePages(8, 4);
         write(more, 0, 0, 2, 4, 5);
         E.due("one too many", more.pages(0, 0), 4);
+        PageTurns old = threePages(8, 4);
+        old.rule(1, 1);
+        E.due("there were five pages", old.best(0, 2), 5);
+        old.rule(1, 2);
+        write(old, 0, 0, 2, 4, 3);
+        E.due("one too many, that was right before", old.pages(0, 0), 4);
         PageTurns fewer = threePages(8, 2);
         write(fewer, 0, 0, 2);
         E.due("one too few", fewer.pages(0, 0), 3);

@@ -42,6 +42,9 @@ public final class TextEdgesTest {
         E.due(x, "count(2)", 120);
         E.due("the last byte counts", Check.read(x, 0, ""), -121);
         fault("busy 1" + " ".repeat(113) + "x", 119);
+        // As many tokens as bytes.
+        fault(")".repeat(120), 0);
+        fault("busy 1" + "(".repeat(114), 6);
         // Bytes, not signs of 7 bits: 225 is 97 and 128.
         fault("busy 1 " + (char) 225, 7);
     }
@@ -189,6 +192,12 @@ public final class TextEdgesTest {
         fault("bus 1", 0);
         fault("busy 1 keeps", 7);
         fault("busy 1 lette", 7);
+        for (String word : new String[] {"cusy", "busx", "galf", "hale", "gree", "fref", "bury", "hall", "flee"}) {
+            fault(word + " 1", 0);
+        }
+        for (String word : new String[] {"ceats", "beatt", "jeep", "kees", "netter", "lettes", "fish", "wisp"}) {
+            fault("busy 1 " + word + " 1", 7);
+        }
         fault("busy half", 5);
         fault("beats 3", 0);
         fault("2(wish)", 2);
