@@ -1044,14 +1044,12 @@ public final class PageTurns {
 
         void split() {
             tokens = 0;
-            int at = 0;
-            while (at < length) {
-                int next = at + 1;
-                if (bytes[at] != ' ') {
+            int next = 0;
+            for (int at = 0; at < length; at++) {
+                if (at >= next && bytes[at] != ' ') {
                     next = behindToken(at);
                     addToken(at, next);
                 }
-                at = next;
             }
             kinds[tokens] = TOKEN_END;
             starts[tokens] = length;

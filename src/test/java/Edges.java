@@ -21,11 +21,13 @@ final class Edges {
     private static final class Sentence {
         final String place;
         final String words;
+        final String method;
         int asked;
 
-        Sentence(String place, String words) {
+        Sentence(String place, String words, String method) {
             this.place = place;
             this.words = words;
+            this.method = method;
         }
     }
 
@@ -41,7 +43,8 @@ final class Edges {
 
     /** What is asked from here on is the test of these words; places are W, T0 to T4, and 1 to 39. */
     void says(String place, String words) {
-        now = new Sentence(place, words);
+        String method = StackWalker.getInstance().walk(frames -> frames.skip(1).findFirst().get().getMethodName());
+        now = new Sentence(place, words, method);
         sentences.add(now);
     }
 
@@ -125,7 +128,8 @@ final class Edges {
     void finish(String... sections) throws IOException {
         boolean isBare = false;
         for (Sentence s : sentences) {
-            System.out.println("  " + s.place + ": \"" + s.words + "\": " + s.asked + " answers");
+            System.out.println("  " + s.place + ": \"" + s.words + "\": " + name + "." + s.method + ", "
+                    + s.asked + " answers");
             isBare |= s.asked == 0;
         }
         if (isBare) {

@@ -197,6 +197,19 @@ public final class ImagesEdgesTest {
         E.due("a fault", x.read(0), -1);
         E.due("isn't counted", x.status(-1), 301);
 
+        for (String call : TermsEdgesTest.ONE_OF_EACH) {
+            PageTurns w = States.RICH.get();
+            w.count(4);
+            w.sheet(0, 8, -1);
+            w.as(1, 0);
+            int answer = Calls.call(w, call);
+            int more = answer < -1000000 ? 1 : 0;
+            E.due("status(-1) behind " + call, w.status(-1), 3 + more);
+            E.due("status(0) behind " + call, w.status(0), answer == BEYOND ? 2 : 1);
+            E.due("status(5) behind " + call, w.status(5), answer == Check.MISSING ? 2 : 1);
+            E.due("status(6) behind " + call, w.status(6), 1);
+        }
+
         E.says("39", "which -1: all, 0 to 6: BEYOND to SIZE.");
         PageTurns y = Check.with("busy 40 busy 40 keep busy 40");
         y.lay(0, 0, 0);

@@ -144,6 +144,14 @@ public final class PagesEdgesTest {
             E.due("the long one", two.best(0, 1), 400 + 40 * round);
             E.due("the short one", two.best(1, 1), 30 + 3 * round);
         }
+        // Two pages are cheaper, though the long part has more stops behind its bar 2.
+        PageTurns three = pageABar("8(5(busy 60))");
+        Check.read(three, 1, "free 40 busy 20");
+        three.rule(0, 45);
+        three.rule(4, 77);
+        E.due("the long one", three.best(0, 0), 20);
+        E.due("the short one", three.best(1, 1), 156);
+        E.due("its pages", three.best(1, 2), 2);
         E.keeps(States.RICH, "best(0, 0)", "best(1, 1)", "best(3, 4)");
 
         E.says("14", "BEYOND.");

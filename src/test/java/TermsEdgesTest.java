@@ -9,7 +9,7 @@ public final class TermsEdgesTest {
     private static final int BEYOND = Check.BEYOND;
 
     /** One call of each act that may stand where there are bars, breaks, sheets and an image. */
-    private static final String[] ONE_OF_EACH = {"set(0, 0, 60)", "rule(0, 60)", "feed(97, 1)", "wipe()", "read(2)",
+    static final String[] ONE_OF_EACH = {"set(0, 0, 60)", "rule(0, 60)", "feed(97, 1)", "wipe()", "read(2)",
         "bar(0, 0, 0)", "change(0, 0, 1, 1)", "cut(0, 0, 1)", "free(0, 0, 0)", "room(0, 0, 0)", "line(0, 2, 2, 0)",
         "page(0, 2, 2, 0)", "best(0, 0)", "laid(0, 0, 0)", "ends(0, 0)", "stop(1, 0)", "hearts(0)", "folds(0)",
         "needs(0)", "together(0, 1)", "all(0)", "lay(0, 0, 0)", "breakOf(0, 0)", "clear(0)", "price(0)", "judge(0)",
