@@ -796,10 +796,12 @@ public final class PageTurns {
 
         private int freeBeats(int from, int step, int known) {
             int beats = 0;
-            int left = known;
-            for (int b = from; b >= 0 && b < bars; b += step) {
-                int hand = left > 0 ? FREE_HAND : fact(b, HAND);
-                left--;
+            for (int n = 0; n < MOST_BARS; n++) {
+                int b = from + n * step;
+                if (!has(b)) {
+                    break;
+                }
+                int hand = n < known ? FREE_HAND : fact(b, HAND);
                 if (hand != FREE_HAND) {
                     return hand == HALF_HAND ? beats + fact(b, BEATS) / 2 : beats;
                 }

@@ -23,6 +23,8 @@ public final class FormTest {
         "count 1", "status 1"};
     private static final Set<String> LIBRARY = Set.of("Math.min", "Math.max", "Integer.bitCount",
             "System.arraycopy", "Arrays.fill");
+    private static final Set<Class<?>> CONSTANTS = Set.of(int.class, long.class, boolean.class, char.class,
+            String.class, int[].class, long[].class, char[].class, byte[].class);
 
     public static void main(String[] args) throws IOException {
         face();
@@ -34,6 +36,7 @@ public final class FormTest {
         }
         String source = Files.readString(Path.of("src/main/java/PageTurns.java"));
         words(source);
+        loops(source);
         lengths(source);
         C.finish();
     }
@@ -73,6 +76,7 @@ public final class FormTest {
             boolean isStatic = Modifier.isStatic(f.getModifiers());
             fields += isStatic ? 0 : 1;
             holds(f + " is final if static", !isStatic || Modifier.isFinal(f.getModifiers()));
+            holds(f + " is of a constant's type if static", !isStatic || CONSTANTS.contains(f.getType()));
             holds(f + " is private", c != PageTurns.class || Modifier.isPrivate(f.getModifiers()));
         }
         holds(c + " has some twenty fields at most", fields <= 20);
@@ -108,6 +112,26 @@ public final class FormTest {
         while (uses.find()) {
             holds(uses.group() + " is allowed", LIBRARY.contains(uses.group()));
         }
+    }
+
+    /** Rule 9: what a loop counts by stands in its own head, and it has a bound. */
+    private static void loops(String source) {
+        Matcher heads = Pattern.compile("\\bfor \\((.*)\\) \\{").matcher(source);
+        Pattern counted = Pattern.compile("int (\\w+) = [^;]*; [^;]*\\b\\1 (<|<=|>|>=) [^;]*; "
+                + "\\1(\\+\\+|--| \\+= \\d+| -= \\d+| >>= \\d+)");
+        int found = 0;
+        while (heads.find()) {
+            found++;
+            holds("a counter against a bound: " + heads.group(), counted.matcher(heads.group(1)).matches());
+        }
+        holds("loops were found", found > 0);
+        Matcher whiles = Pattern.compile("\\bwhile \\((\\w+) < length && .*\\) \\{\\s*\\1\\+\\+;\\s*\\}").matcher(source);
+        int bounded = 0;
+        while (whiles.find()) {
+            bounded++;
+        }
+        holds("each while counts up to a length", source.split("\\bwhile \\(").length - 1 == bounded);
+        holds("no do", !source.contains(" do {"));
     }
 
     private static void lengths(String source) {
